@@ -131,6 +131,25 @@ public final class ActsTest {
         }
         CHECK.due("all are back", p.look(0), 25);
         CHECK.due("twenty again", p.look(6), 20);
+        mixedActs();
+    }
+
+    private static void mixedActs() {
+        GuessedPlace p = new GuessedPlace();
+        Check.tell(p, "key 0 50;");
+        // In, in, out, over and over: 30 acts, of which the last 20 are undone.
+        int count = 50;
+        int[] counts = new int[31];
+        for (int i = 0; i < 30; i++) {
+            counts[i] = count;
+            count += i % 3 == 2 ? -1 : 1;
+            CHECK.due("act " + i, i % 3 == 2 ? p.remove(0) : p.insert(0), count);
+        }
+        for (int i = 29; i >= 10; i--) {
+            CHECK.due("undo " + i, p.undo(true), 0);
+            CHECK.due("count ahead of " + i, p.count(0), counts[i]);
+        }
+        CHECK.due("no more", p.undo(true), Check.NOTHING);
     }
 
     private static void undoAndTheRow() {

@@ -157,6 +157,13 @@ public final class PiecesTest {
             CHECK.due("seek behind " + i, p.seek(p.key(i) + 1, 0), i + 1);
         }
         CHECK.due("no error without slack", p.errors(0, 1), 0);
+        Check.tell(p, "slack 20;upper 20;");
+        int left = p.look(4);
+        CHECK.due("fewer levels", left < 9, true);
+        CHECK.due("none above", p.piece(left, 0, 0), Check.NOTHING);
+        CHECK.due("none above", p.guess(left, 0, 0), -1);
+        CHECK.due("none above", p.errors(left, 0), -1);
+        CHECK.due("none above", p.look(10 + left), -1);
     }
 
     private static void pages() {
@@ -180,6 +187,12 @@ public final class PiecesTest {
         CHECK.due("gone ones, too", p.pages(1), 20);
         CHECK.due("what 2", p.pages(2), -1);
         CHECK.due("what -1", p.pages(-1), -1);
+        // The line goes above the last place: 7 / 9 through (9, 8) is 12 at 15, whose place is the last, 12.
+        GuessedPlace above = told("run 0 10 1;key 11;key 13;key 15;");
+        above.set(3, 13);
+        CHECK.due("one piece", above.look(10), 1);
+        CHECK.due("guess of the last", above.guess(0, 0, 15), 12);
+        CHECK.due("no page behind the last place", above.pages(0), 26);
         GuessedPlace one = told("key 7;");
         CHECK.due("one key needs no height", one.pages(1), 1);
         CHECK.due("one key", one.pages(0), 2);
@@ -211,6 +224,9 @@ public final class PiecesTest {
         CHECK.due("pieces are as they were", p.piece(0, 0, 2), 0);
         CHECK.due("what 2", p.bestSlack(2), -1);
         CHECK.due("what -1", p.bestSlack(-1), -1);
+        GuessedPlace most = told("upper 0;run 1 40 1;run 1040 40 1000;run 40041 40 1;run 41080 3 1000;");
+        CHECK.due("the greatest slack is tried, too", most.bestSlack(0), 20);
+        CHECK.due("one piece, and 681 compared", most.bestSlack(1), 682);
         GuessedPlace none = new GuessedPlace();
         none.insert(5);
         CHECK.due("without a row", none.bestSlack(0), 0);

@@ -5,6 +5,7 @@ public final class PlaneTest {
     public static void main(String[] args) {
         limits();
         orders();
+        onePlaceAlone();
         bestOrder();
         CHECK.finish();
     }
@@ -29,7 +30,10 @@ public final class PlaneTest {
         CHECK.due("the ninth", p.box(0, 0, 0, 0), -1);
         CHECK.due("points", p.look(8), 100);
         CHECK.due("boxes", p.look(9), 8);
-        CHECK.due("points alike count each", p.boxed(7, 0), 100);
+        for (int what = 0; what < 4; what++) {
+            CHECK.due("points alike count each, what " + what, p.boxed(7, what), 100);
+        }
+        CHECK.due("all alike", p.bestOrder(), 0);
         CHECK.due("box 8", p.boxed(8, 0), -1);
         CHECK.due("box -1", p.boxed(-1, 0), -1);
         CHECK.due("what 4", p.boxed(0, 4), -1);
@@ -72,6 +76,24 @@ public final class PlaneTest {
         q.point(16, 16);
         q.box(16, 16, 31, 31);
         CHECK.due("high bits", q.boxed(0, 2), 2);
+    }
+
+    /** By every order no two places have one number: a box of one place reads no other. */
+    private static void onePlaceAlone() {
+        int[][] places = {{0, 0}, {1, 0}, {31, 0}, {31, 1}, {0, 1}, {0, 2}, {31, 30}, {31, 31}};
+        GuessedPlace p = new GuessedPlace();
+        GuessedPlace none = new GuessedPlace();
+        for (int[] at : places) {
+            p.point(at[0], at[1]);
+            p.box(at[0], at[1], at[0], at[1]);
+            none.box(at[0], at[1], at[0], at[1]);
+        }
+        for (int box = 0; box < places.length; box++) {
+            for (int what = 0; what < 4; what++) {
+                CHECK.due("box " + box + " alone, what " + what, p.boxed(box, what), 1);
+                CHECK.due("box " + box + " empty, what " + what, none.boxed(box, what), 0);
+            }
+        }
     }
 
     private static void bestOrder() {

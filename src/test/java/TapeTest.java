@@ -135,6 +135,20 @@ public final class TapeTest {
         CHECK.fault(p, "keyX 5;", 1, 0);
         CHECK.fault(p, "key\u00e95;", 1, 3);
         CHECK.fault(p, "key 5,", 1, 5);
+        for (char letter : "azAZ".toCharArray()) {
+            CHECK.fault(p, "key" + letter + " 5;", 1, 0);
+        }
+        for (char sign : "@[`{/:".toCharArray()) {
+            CHECK.fault(p, "key" + sign + "5;", 1, 3);
+            CHECK.fault(p, "key 5" + sign + ";", 1, 5);
+        }
+        CHECK.fault(p, ";".repeat(600), 1, 0);
+        Check.feed(p, "keyy");
+        p.end(3);
+        CHECK.due("a word ends with the text", p.text() == -1 && p.fault(1) == 3, true);
+        Check.feed(p, "key 5;key 66;");
+        p.end(11);
+        CHECK.due("a number ends with the text", p.text() == -1 && p.fault(1) == 11, true);
     }
 
     private static void faultsOfKind1() {
@@ -188,6 +202,8 @@ public final class TapeTest {
         CHECK.due("99 of one", Check.tell(p, "key 5 99;"), 1);
         CHECK.fault(p, "drop 6; key 5;", 3, 8);
         CHECK.fault(p, "run 3 3 1;", 3, 0);
+        CHECK.due("a run up to 99", Check.tell(p, "drop 5;key 5 98;run 5 1 1;"), 1);
+        CHECK.due("its count", p.count(5), 99);
         CHECK.fault(p, "key 6 50;key 6 50;", 3, 9);
         CHECK.due("as it would be told then", Check.tell(p, "drop 5;key 5 99;"), 1);
         CHECK.due("300 keys", Check.tell(p, "drop 5;run 1 99 1;run 101 99 1;run 201 99 1;run 301 3 1;"), 300);
