@@ -118,5 +118,9 @@ public final class PlaneTest {
         GuessedPlace q = new GuessedPlace();
         q.box(0, 0, 31, 31);
         CHECK.due("no points", q.bestOrder(), 0);
+        GuessedPlace one = new GuessedPlace();
+        one.point(9, 2);
+        one.box(2, 2, 3, 3);
+        CHECK.due("one box, by bits none is read", one.bestOrder(), 1);
     }
 }
