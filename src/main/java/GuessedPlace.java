@@ -1000,9 +1000,9 @@ public final class GuessedPlace {
                 if (l == 0) {
                     return halve(level.row, low, high, x);
                 }
-                // Not above x is less than the next number; an x without one is above all keys.
-                int more = x < Integer.MAX_VALUE ? x + 1 : x;
-                at = Math.max(0, halve(level.row, low, high, more) - 1);
+                // Not above x is less than the next number; no key is above the greatest that can be.
+                int next = Math.min(x, MOST_KEY) + 1;
+                at = Math.max(0, halve(level.row, low, high, next) - 1);
             }
             return at;
         }

@@ -28,6 +28,11 @@ public final class LanguageTest {
         "Exact", "hashCode", "toString", "Random", "Thread", "nanoTime", "currentTimeMillis", "import static", "package",
         "String[", "Object", "HashMap", "System.out", "@Override"};
 
+    /** What rule 4 names, and the functions of Math, Integer and Long over int and long that are used. */
+    private static final Set<String> LIBRARY = Set.of("System.arraycopy(", "Arrays.fill(", "Arrays.copyOf(",
+        "Arrays.copyOfRange(", "Math.max(", "Math.min(", "Math.abs(", "Math.floorDiv(", "Math.floorMod(",
+        "Integer.compare(", "Integer.bitCount(", "Long.compare(", "Long.bitCount(");
+
     public static void main(String[] args) throws IOException {
         face();
         members();
@@ -102,7 +107,16 @@ public final class LanguageTest {
         while (imports.find()) {
             CHECK.due("import " + imports.group(1), imports.group(1).matches("java\\.util\\.(Arrays|ArrayList|List)"), true);
         }
+        library(code);
         methodLengths(code);
+    }
+
+    /** Functions alone, so that a constant such as the greatest int, which rule 4 does not name, is found. */
+    private static void library(String code) {
+        Matcher uses = Pattern.compile("\\b(System|Arrays|Math|Integer|Long|String|Character)\\.\\w+\\(?").matcher(code);
+        while (uses.find()) {
+            CHECK.due("use of " + uses.group(), LIBRARY.contains(uses.group()), true);
+        }
     }
 
     private static void methodLengths(String code) {
